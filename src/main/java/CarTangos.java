@@ -7,6 +7,8 @@ public final class CarTangos {
     private static final int SIDE = 5;
     private static final int CELLS = 25;
     private static final int LANES = 10;
+    /** Sets of cells are bits, the cell 0 the lowest one. */
+    private static final int FIRST_COLUMN = 0x108421;
     private static final int MOST_CARS = 6;
     private static final int MOST_WALLS = 4;
     private static final int SHORTEST = 2;
@@ -72,6 +74,9 @@ public final class CarTangos {
     public int slide(int car, int by)
             throws IndexOutOfBoundsException, IllegalArgumentException, IllegalStateException {
         refuse(now.troubleOfSliding(car, by));
+        if (now.logged >= MOST_LOGGED) {
+            throw new IllegalStateException("the log is full");
+        }
         save();
         return now.makeSlide(car, by);
     }
@@ -360,7 +365,7 @@ public final class CarTangos {
 
     public int fewestBehind(int car, int by)
             throws IndexOutOfBoundsException, IllegalArgumentException, IllegalStateException {
-        refuse(now.troubleOfSlidingUnlogged(car, by));
+        refuse(now.troubleOfSliding(car, by));
         exploreNow();
         explorer.start = explorer.behindSlide(explorer.start, car, by);
         return explorer.slidesFromStart();
@@ -511,7 +516,7 @@ public final class CarTangos {
     }
 
     private boolean trySliding(int car, int by) {
-        boolean isPossible = now.troubleOfSliding(car, by) == NO_TROUBLE;
+        boolean isPossible = now.troubleOfSliding(car, by) == NO_TROUBLE && now.logged < MOST_LOGGED;
         if (isPossible) {
             now.makeSlide(car, by);
         }
@@ -530,20 +535,15 @@ public final class CarTangos {
         return cell >= 0 && cell < CELLS;
     }
 
-    /** The bit of a lane's cell; places outside the lane are none. */
     private static int bitOf(int lane, int place) {
-        if (place < 0 || place >= SIDE) {
-            return 0;
-        }
         return lane < SIDE ? 1 << (SIDE * lane + place) : 1 << (SIDE * place + lane - SIDE);
     }
 
     private static int cellsOf(int lane, int place, int length) {
-        int cells = 0;
-        for (int i = 0; i < length && i < LONGEST; i++) {
-            cells |= bitOf(lane, place + i);
+        if (lane < SIDE) {
+            return ((1 << length) - 1) << (SIDE * lane + place);
         }
-        return cells;
+        return (FIRST_COLUMN & ((1 << (SIDE * length)) - 1)) << (SIDE * place + lane - SIDE);
     }
 
     private static double share(int part, int all) {
@@ -672,13 +672,9 @@ public final class CarTangos {
             return (walls & (1 << cell)) != 0;
         }
 
-        int cellsOfCar(int car) {
-            return hasCar(car) ? cellsOf(lanes[car], places[car], lengths[car]) : 0;
-        }
-
         int carAt(int cell) {
-            for (int car = 0; car < cars; car++) {
-                if ((cellsOfCar(car) & (1 << cell)) != 0) {
+            for (int car = 0; car < cars && car < MOST_CARS; car++) {
+                if ((cellsOf(lanes[car], places[car], lengths[car]) & (1 << cell)) != 0) {
                     return car;
                 }
             }
@@ -687,8 +683,8 @@ public final class CarTangos {
 
         int takenCells() {
             int taken = walls;
-            for (int car = 0; car < cars; car++) {
-                taken |= cellsOfCar(car);
+            for (int car = 0; car < cars && car < MOST_CARS; car++) {
+                taken |= cellsOf(lanes[car], places[car], lengths[car]);
             }
             return taken;
         }
@@ -756,7 +752,8 @@ public final class CarTangos {
             return hasWallAt(cell);
         }
 
-        int troubleOfSlidingUnlogged(int car, int by) {
+        /** Does not ask whether the log has room. */
+        int troubleOfSliding(int car, int by) {
             if (!hasCar(car)) {
                 return NO_SUCH_THING;
             }
@@ -765,11 +762,6 @@ public final class CarTangos {
             }
             int room = by > 0 ? roomOf(car, 1) : roomOf(car, -1);
             return Math.abs(by) > room ? BAD_STATE : NO_TROUBLE;
-        }
-
-        int troubleOfSliding(int car, int by) {
-            int trouble = troubleOfSlidingUnlogged(car, by);
-            return trouble == NO_TROUBLE && logged >= MOST_LOGGED ? BAD_STATE : trouble;
         }
 
         int makeSlide(int car, int by) {
@@ -1082,15 +1074,15 @@ public final class CarTangos {
         /** From what is found already, by slides of up to so many steps, the nearest arrangements first. */
         void spread(int mostSteps) {
             for (int i = 0; i < foundCount && i < MOST_ARRANGEMENTS; i++) {
+                int cost = costOf(found[i]) + 1;
                 for (int car = 0; car < cars; car++) {
-                    spreadAlong(found[i], car, 1, mostSteps);
-                    spreadAlong(found[i], car, -1, mostSteps);
+                    spreadAlong(found[i], car, 1, mostSteps, cost);
+                    spreadAlong(found[i], car, -1, mostSteps, cost);
                 }
             }
         }
 
-        void spreadAlong(int from, int car, int sign, int mostSteps) {
-            int cost = costOf(from) + 1;
+        void spreadAlong(int from, int car, int sign, int mostSteps, int cost) {
             int at = behindStep(from, car, sign);
             for (int steps = 1; steps <= mostSteps && at != NONE; steps++) {
                 find(at, cost);
