@@ -179,6 +179,9 @@ public final class ParkTest {
         }
         x.slide(0, -1);
         Check.same("picture behind a slide", Parks.picture(x), "#..../...../....1/000.1/...#.");
+        x.dropLast();
+        Check.same("picture without a car that went", Parks.picture(x), "#..../...../...../000../...#.");
+        Check.same("free without it", x.freeCells(), 25 - 3 - 2);
     }
 
     private static void isOut() {
@@ -230,6 +233,8 @@ public final class ParkTest {
         Check.same("up, stopped by the red one", x.room(2, false), 2);
         x.toggleWall(11);
         Check.same("up, stopped by a wall", x.room(2, false), 0);
+        CarTangos first = Parks.of("h4.0*2;v0.2*2;w1");
+        Check.same("in the first column", first.room(1, false) + " " + first.room(1, true), "2 0");
         CarTangos two = Parks.of("h0.0*2;h0.3*2");
         Check.same("in one lane", two.room(0, true) + " " + two.room(1, false) + " " + two.possibleSlides(), "1 1 2");
     }
