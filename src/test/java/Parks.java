@@ -11,6 +11,11 @@ final class Parks {
     /** A park in which the plan of the fewest slides makes more steps and burns more fuel than need be. */
     static final String DEAR_PLAN = "h4.0*2;h2.3*2;v2.1*2;h0.2*2;h3.0*2;v4.3*2";
 
+    /** A park in which the fewest steps are 6, with a fuel of 15, and the least fuel is 14, with 7 steps. */
+    static final String STEPS_OR_FUEL = "h2.1*2;h4.2*3;h1.2*2;v3.2*2;v0.2*3;h0.3*2";
+    /** Six cars; the rows 3 and 4 are free. */
+    static final String SIX = "h0.0*2;v0.1*2;v1.1*2;v2.1*2;v3.1*2;v4.1*2";
+
     private Parks() {
     }
 
@@ -23,7 +28,7 @@ final class Parks {
     /** A park from a text; every part is called by the method that it stands for. */
     static CarTangos of(String text) {
         CarTangos x = new CarTangos();
-        for (String part : text.split(";")) {
+        for (String part : text.isEmpty() ? new String[0] : text.split(";")) {
             if (part.charAt(0) == 'w') {
                 x.toggleWall(Integer.parseInt(part.substring(1)));
             } else {

@@ -1,6 +1,3 @@
-import java.util.ArrayList;
-import java.util.List;
-
 /** Promises 36 to 51: plans, arrangements, what would be, the digest. */
 public final class PlansTest {
     public static void main(String[] args) {
@@ -52,7 +49,7 @@ public final class PlansTest {
             for (int before = 0; before < 10; before++) {
                 CarTangos x = new CarTangos();
                 for (int i = 0; i < parks.length; i++) {
-                    while (x.cars() > 0) {
+                    for (int cars = x.cars(); cars > 0; cars--) {
                         x.dropLast();
                     }
                     x.rewind();
@@ -311,11 +308,11 @@ public final class PlansTest {
             "h0.0*2;v4.0*2;v4.3*2", "h1.2*3;v2.2*3;w5"};
         for (String park : parks) {
             CarTangos x = Parks.of(park);
-            Check.same("digest of " + park, x.digest(), toldDigest(x, ""));
+            Check.same("digest of " + park, x.digest(), Told.digest(x, ""));
             Parks.type(x, "b;b");
             x.work();
             Parks.type(x, "w1;~");
-            Check.same("digest with a stop, of " + park, x.digest(), toldDigest(x, "w1;~"));
+            Check.same("digest with a stop, of " + park, x.digest(), Told.digest(x, "w1;~"));
             x.clearBuffer();
             for (int car = 0; car < x.cars(); car++) {
                 if (x.room(car, true) > 0) {
@@ -325,44 +322,7 @@ public final class PlansTest {
                     x.slide(car, -1);
                 }
             }
-            Check.same("digest with a log, of " + park, x.digest(), toldDigest(x, ""));
-        }
-    }
-
-    private static long toldDigest(CarTangos x, String buffer) {
-        List<Long> values = new ArrayList<>();
-        add(values, x.cars(), x.walls(), x.freeCells(), x.isOut() ? 1 : 0, x.possibleSlides(), x.logged(), x.fuel());
-        add(values, x.fuelByCars(), x.fewestSlides(), x.fewestSlidesFromEnds(), x.fewestSteps(), x.leastFuel());
-        add(values, x.leastFuelByRounds(), x.reachable(), x.reachableOut(), x.farthest(), x.arrangements());
-        add(values, x.savedStates());
-        for (int cell = 0; cell < 25; cell++) {
-            add(values, x.carOn(cell), x.isWall(cell) ? 1 : 0);
-        }
-        for (int car = 0; car < x.cars(); car++) {
-            add(values, x.laneOf(car), x.placeOf(car), x.lengthOf(car), x.stepsOf(car));
-            add(values, x.room(car, true), x.room(car, false));
-        }
-        for (int slide = 0; slide < x.logged(); slide++) {
-            add(values, x.carOfSlide(slide), x.changeBySlide(slide));
-        }
-        add(values, x.hasStopped() ? 1 : 0);
-        if (x.hasStopped()) {
-            add(values, x.stoppedPart());
-        }
-        add(values, Double.doubleToLongBits(x.reachedShare()), buffer.length());
-        for (char code : buffer.toCharArray()) {
-            add(values, code);
-        }
-        long hash = 4507;
-        for (long value : values) {
-            hash = 31 * hash + value;
-        }
-        return hash;
-    }
-
-    private static void add(List<Long> values, long... more) {
-        for (long value : more) {
-            values.add(value);
+            Check.same("digest with a log, of " + park, x.digest(), Told.digest(x, ""));
         }
     }
 }

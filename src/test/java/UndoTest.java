@@ -53,20 +53,13 @@ public final class UndoTest {
         saves("takeBack", x, x::takeBack);
         saves("rewind", x, x::rewind);
         saves("driveOut", x, x::driveOut);
-        undoAll(x);
-        x.addCar(2, 0, 2);
-        saves("toggleWall", x, () -> x.toggleWall(0));
-        saves("dropLast", x, x::dropLast);
-        x.keep();
-        saves("restore", x, x::restore);
-        x.append('b');
-        saves("work", x, x::work);
-    }
-
-    private static void undoAll(CarTangos x) {
-        while (x.savedStates() > 0) {
-            x.undo();
-        }
+        CarTangos y = Parks.of("h2.0*2");
+        saves("toggleWall", y, () -> y.toggleWall(0));
+        saves("dropLast", y, y::dropLast);
+        y.keep();
+        saves("restore", y, y::restore);
+        y.append('b');
+        saves("work", y, y::work);
     }
 
     private static void saves(String name, CarTangos x, Callable<Object> call) {
