@@ -5,6 +5,8 @@ final class PlanEdges {
     /** Parks without a plan: walls, a long car, and cars in the lane. */
     private static final String[] NO_PLAN = {"h2.0*2;w14", "h2.0*2;w12", Parks.NEVER, "h2.0*2;h2.2*2", "h0.0*2;h0.2*3"};
 
+    private static final String WIDE = "h2.0*2;v0.0*2;v1.3*2;v2.0*2;v3.3*2;v4.0*2";
+
     private PlanEdges() {
     }
 
@@ -42,6 +44,28 @@ final class PlanEdges {
         }
         CarTangos full = Edge.logged("h2.0*2", 60);
         Check.same("a full log does not matter", fewest.applyAsInt(full), fewest.applyAsInt(Parks.of("h2.0*2")));
+    }
+
+    /** What is told of small parks, behind what was told of greater ones by the same object. */
+    private static void toldAnew(ToIntFunction<CarTangos> told) {
+        String[] parks = {"", "h2.0*2", "h2.3*2", "h2.0*2;w12", "h2.0*2;h2.2*2", Parks.NEVER, "h2.0*3;v3.0*2"};
+        for (String greater : new String[] {WIDE, Parks.LONG_PLAN, Parks.STEPS_OR_FUEL}) {
+            for (String park : parks) {
+                CarTangos x = Parks.of(greater);
+                x.digest();
+                told.applyAsInt(x);
+                for (int car = 6; car > 0; car--) {
+                    x.dropLast();
+                }
+                if (x.walls() > 0) {
+                    x.toggleWall(9);
+                }
+                if (!park.isEmpty()) {
+                    Edge.work(x, park);
+                }
+                Check.same("of " + park + " behind " + greater, told.applyAsInt(x), told.applyAsInt(Parks.of(park)));
+            }
+        }
     }
 
     // ---- promises 36 to 40: plans
@@ -94,6 +118,34 @@ final class PlanEdges {
         Check.promise(40, "Returns the same, told by rounds over all arrangements, until none becomes cheaper.");
         told(CarTangos::leastFuelByRounds, 6, 2, 6, 8, 14, 14, 40, 9, 12);
         atTheEdges(CarTangos::leastFuelByRounds);
+    }
+
+    static void plansAreToldAnew() {
+        Check.promise(36, "told from the arrangement of now");
+        toldAnew(CarTangos::fewestSlides);
+        toldAnew(CarTangos::fewestSlidesFromEnds);
+        toldAnew(CarTangos::fewestSteps);
+        toldAnew(CarTangos::leastFuel);
+        toldAnew(CarTangos::leastFuelByRounds);
+        toldAnew(x -> Check.answer(x::nextCar) instanceof Integer ? x.nextCar() : -1);
+        toldAnew(x -> Check.answer(x::nextChange) instanceof Integer ? x.nextChange() : -9);
+    }
+
+    /** Told as often as an object may be asked, in parks with many slides, out, one step from out, and farther off. */
+    static void plansAreToldAgainAndAgain() {
+        Check.term(39, "An object is used for at most 512 calls after it has been made;");
+        String others = ";h0.2*2;h1.2*2;h3.2*2;h4.2*2;v0.1*2";
+        for (int place = 3; place >= 1; place--) {
+            CarTangos x = Parks.of("h2." + place + "*2" + others);
+            for (int call = 7; call <= 512; call++) {
+                Check.same("least fuel, call " + call, x.leastFuel(), 2 * (3 - place));
+            }
+            CarTangos y = Parks.of("h2." + place + "*2" + others);
+            for (int call = 7; call <= 509; call += 4) {
+                Check.same("the others, call " + call, y.fewestSlides() + " " + y.fewestSlidesFromEnds() + " " + y.fewestSteps()
+                        + " " + y.leastFuelByRounds(), place == 3 ? "0 0 0 0" : "1 1 " + (3 - place) + " " + 2 * (3 - place));
+            }
+        }
     }
 
     static void eachForItself() {
@@ -192,7 +244,7 @@ final class PlanEdges {
     static void reachable() {
         Check.promise(43, "Returns the number of arrangements that can be reached");
         String[] parks = {"h2.0*2", "h2.0*3", "h2.1*2;w14", "h2.0*2;w12", "h2.0*2;h2.2*2", "h2.0*2;h2.3*2", Parks.NEVER,
-            Parks.LONG_PLAN, "h2.0*2;v0.0*2;v1.3*2;v2.0*2;v3.3*2;v4.0*2", "h0.0*3;w3;v0.1*2;w15"};
+            Parks.LONG_PLAN, WIDE, "h0.0*3;w3;v0.1*2;w15"};
         int[] dues = {4, 3, 3, 1, 3, 3, 6, 123, 1024, 1};
         for (int i = 0; i < parks.length; i++) {
             Check.same("in " + parks[i], Parks.of(parks[i]).reachable(), dues[i]);
@@ -225,7 +277,7 @@ final class PlanEdges {
     static void reachableOut() {
         Check.promise(44, "Returns the number of those in which the red car is out");
         String[] parks = {"h2.0*2", "h2.0*3", "h2.3*2", "h2.0*2;w14", "h2.0*2;w12", "h2.0*2;h2.2*2", "h2.2*2;h2.0*2", Parks.NEVER,
-            Parks.ONE_IN_THE_WAY, Parks.LONG_PLAN, "h2.0*2;v0.0*2;v1.3*2;v2.0*2;v3.3*2;v4.0*2"};
+            Parks.ONE_IN_THE_WAY, Parks.LONG_PLAN, WIDE};
         int[] dues = {1, 1, 1, 0, 0, 0, 2, 0, 2, 55, 256};
         for (int i = 0; i < parks.length; i++) {
             Check.same("in " + parks[i], Parks.of(parks[i]).reachableOut(), dues[i]);
@@ -240,7 +292,7 @@ final class PlanEdges {
     static void farthest() {
         Check.promise(45, "Returns the greatest number of slides that an arrangement that can be reached takes, by fewest ones.");
         String[] parks = {"h2.0*2", "h2.1*2", "h2.0*2;w12", "h2.0*2;h2.2*2", Parks.NEVER, Parks.LONG_PLAN,
-            "h2.0*2;v0.0*2;v1.3*2;v2.0*2;v3.3*2;v4.0*2"};
+            WIDE};
         int[] dues = {1, 1, 0, 2, 2, 15, 7};
         for (int i = 0; i < parks.length; i++) {
             Check.same("in " + parks[i], Parks.of(parks[i]).farthest(), dues[i]);
@@ -255,7 +307,7 @@ final class PlanEdges {
         Check.promise(46, "Returns the number of all arrangements (reached or not) in which no two cars, and no car and a wall,"
                 + " are on the same cell");
         String[] parks = {"h2.0*2", "h2.0*3", "h2.0*2;w12", "h2.0*2;w14", "h2.0*2;h2.2*2", "h2.0*2;h2.2*3", Parks.NEVER,
-            Parks.ONE_IN_THE_WAY, Parks.LONG_PLAN, "h2.0*2;v0.0*2;v1.3*2;v2.0*2;v3.3*2;v4.0*2", "h0.0*2;h0.2*2;h1.0*2;h1.2*2;h2.0*2;h2.2*2"};
+            Parks.ONE_IN_THE_WAY, Parks.LONG_PLAN, WIDE, "h0.0*2;h0.2*2;h1.0*2;h1.2*2;h2.0*2;h2.2*2"};
         int[] dues = {4, 3, 2, 3, 6, 2, 6, 12, 123, 1024, 216};
         for (int i = 0; i < parks.length; i++) {
             Check.same("in " + parks[i], Parks.of(parks[i]).arrangements(), dues[i]);
@@ -269,6 +321,15 @@ final class PlanEdges {
     static void arrangementsWithoutCars() {
         Check.promise(46, "1 without cars");
         withoutCars(CarTangos::arrangements, 1);
+    }
+
+    static void arrangementsAreToldAnew() {
+        Check.promise(44, "Returns the number of those in which the red car is out");
+        toldAnew(CarTangos::reachable);
+        toldAnew(CarTangos::reachableOut);
+        toldAnew(CarTangos::farthest);
+        toldAnew(CarTangos::arrangements);
+        toldAnew(x -> (int) (24 * x.reachedShare()));
     }
 
     static void arrangementTellsPlaces() {

@@ -452,6 +452,19 @@ final class TextEdges {
         Check.same("a sign", typed("w+1").firstError() + typed("w-1").firstError(), 2);
     }
 
+    static void cellsBehindLongerTexts() {
+        Check.promise(10, "Clears the buffer.");
+        CarTangos x = new CarTangos();
+        Check.same("two digits", Edge.work(x, "w24"), 1);
+        Check.same("then one, nothing of the other text is left", Edge.work(x, "w2") + Parks.wallsOf(x), "1w2w24");
+        Parks.type(x, "w19");
+        x.clearBuffer();
+        Check.same("nor of a cleared one", Edge.work(x, "w1") + Parks.wallsOf(x), "1w1w2w24");
+        Parks.type(x, "077");
+        x.clearBuffer();
+        Check.same("nor of what was an error", Edge.work(x, "w2") + Parks.wallsOf(x), "1w1w24");
+    }
+
     static void partsOfTakingBack() {
         Check.term(12, "\"b\" (the latest slide is taken back)");
         CarTangos x = Edge.logged("h2.0*2", 3);
